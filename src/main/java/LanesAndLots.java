@@ -92,7 +92,7 @@ public final class LanesAndLots {
 
     public int dayOf(int year, int month, int day) throws IllegalArgumentException {
         needRange(year, Dates.FIRST_YEAR, Dates.LAST_YEAR);
-        needRange(month, 1, Dates.MONTHS);
+        // A month that does not exist has no days.
         needRange(day, 1, Dates.daysOfMonth(year, month));
         return Dates.numberOf(year, month, day);
     }

@@ -780,40 +780,15 @@ public final class PromiseTest {
         LanesAndLots x = new LanesAndLots();
         is(0, x.actCount());
         failsFlat(x, STATE, x::undo);
-        Call[] acts = {x::addProduct, () -> x.comeIn(0, 9, 4, 7), () -> x.comeIn(0, 3, 30, 2), () -> x.order(2, 0, 6, 1, 1),
-            () -> x.order(5, 0, 4, 0, 5), x::wave, () -> x.hold(1, true), () -> x.hold(1, true), () -> x.giveBack(0, 2),
-            () -> x.cancel(1), () -> x.count(1, 4), () -> x.scrap(1, 1), () -> x.move(1, 7), () -> x.addItem(4), () -> x.addItem(9),
-            x::clearItems, x::clearItems, () -> x.setWants(0, 3, 0, 2, 9), () -> x.setCosts(3, 1, 2, 20, 12), x::wave,
-            () -> x.passDays(2), () -> x.recall(1), () -> x.giveBack(1, 1), () -> x.passDays(30), () -> x.giveBack(0, 1),
-            () -> x.newHouse(2, 5, 3, 4), x::addProduct, () -> x.comeIn(0, 9, 4, 7)};
-        String[] looks = new String[acts.length + 1];
-        for (int k = 0; k < acts.length; k++) {
-            looks[k] = look(x).replaceFirst("^(\\S+ \\S+) \\S+ ", "$1 ");
-            acts[k].run();
-            is(Math.min(8, k + 1), x.actCount());
-        }
-        for (int k = 1; k <= 8; k++) {
-            is(8 - k, x.undo());
-            is(looks[acts.length - k], look(x).replaceFirst("^(\\S+ \\S+) \\S+ ", "$1 "));
-        }
-        failsFlat(x, STATE, x::undo);
-
-        // Each act undone by itself, and done again.
-        LanesAndLots y = new LanesAndLots();
-        Call[] again = {y::addProduct, () -> y.comeIn(0, 9, 4, 7), () -> y.comeIn(0, 3, 30, 2), () -> y.order(2, 0, 6, 1, 1),
-            () -> y.order(5, 0, 4, 0, 5), y::wave, () -> y.hold(1, true), () -> y.giveBack(0, 2), () -> y.cancel(1),
-            () -> y.count(1, 4), () -> y.scrap(1, 1), () -> y.move(1, 7), () -> y.addItem(4), y::clearItems,
-            () -> y.setWants(0, 3, 0, 2, 9), () -> y.setCosts(3, 1, 2, 20, 12), y::wave, () -> y.passDays(2), () -> y.recall(1),
-            () -> y.newHouse(2, 5, 3, 4)};
-        for (Call act : again) {
-            String before = look(y).replaceFirst("^(\\S+ \\S+) \\S+ ", "$1 ");
-            int count = Math.min(7, y.actCount());
-            Object first = act.run();
-            is(count + 1, y.actCount());
-            is(count, y.undo());
-            is(before, look(y).replaceFirst("^(\\S+ \\S+) \\S+ ", "$1 "));
-            is(first, act.run());
-        }
+        Act[] acts = {h -> h.addProduct(), h -> h.addProduct(), h -> h.comeIn(0, 9, 4, 7), h -> h.comeIn(0, 3, 30, 2),
+            h -> h.order(2, 0, 6, 1, 1), h -> h.order(5, 0, 4, 0, 5), h -> h.wave(), h -> h.hold(1, true), h -> h.hold(1, true),
+            h -> h.giveBack(0, 2), h -> h.cancel(1), h -> h.count(1, 4), h -> h.scrap(1, 1), h -> h.move(1, 7), h -> h.addItem(4),
+            h -> h.addItem(9), h -> h.clearItems(), h -> h.clearItems(), h -> h.addItem(3), h -> h.setWants(0, 3, 0, 2, 9),
+            h -> h.setCosts(3, 1, 2, 20, 12), h -> h.comeIn(1, 2, 7, 99), h -> h.order(0, 1, 1, 5, 1), h -> h.wave(), h -> h.passDays(2),
+            h -> h.recall(1), h -> h.giveBack(1, 1), h -> h.passDays(30), h -> h.giveBack(0, 1), h -> h.newHouse(2, 5, 3, 4),
+            h -> h.addProduct(), h -> h.addProduct(), h -> h.comeIn(1, 2, 444, 888), h -> h.order(7, 1, 44, 333, 22), h -> h.wave()};
+        for (int end = 1; end <= acts.length; end++) undoFrom(acts, end);
+        undoneAndDone(acts);
 
         part = "45, which lot was given latest is brought back too";
         LanesAndLots z = house(3, 4, 6, 2, 1);
@@ -827,6 +802,41 @@ public final class PromiseTest {
         is(7, z.undo());
         z.giveBack(0, 1);
         is(1, z.lotsOf(0));
+    }
+
+    private interface Act { Object on(LanesAndLots x); }
+
+    private static String lookWithoutActs(LanesAndLots x) {
+        return look(x).replaceFirst("^(\\S+ \\S+) \\S+ ", "$1 ");
+    }
+
+    private static void undoFrom(Act[] acts, int end) {
+        LanesAndLots x = new LanesAndLots();
+        String[] looks = new String[end];
+        for (int k = 0; k < end; k++) {
+            looks[k] = lookWithoutActs(x);
+            acts[k].on(x);
+            is(Math.min(8, k + 1), x.actCount());
+        }
+        for (int left = Math.min(8, end) - 1, k = end - 1; left >= 0; left--, k--) {
+            is(left, x.undo());
+            is(left, x.actCount());
+            is(looks[k], lookWithoutActs(x));
+        }
+        failsFlat(x, STATE, x::undo);
+    }
+
+    private static void undoneAndDone(Act[] acts) {
+        LanesAndLots x = new LanesAndLots();
+        for (Act act : acts) {
+            String before = lookWithoutActs(x);
+            int count = Math.min(7, x.actCount());
+            Object first = act.on(x);
+            is(count + 1, x.actCount());
+            is(count, x.undo());
+            is(before, lookWithoutActs(x));
+            is(first, act.on(x));
+        }
     }
 
     private static void measures() {
@@ -849,6 +859,8 @@ public final class PromiseTest {
         is(2.0f / 6.0f, x.givenShare());
         x.cancel(1);
         is(2.0f / 3.0f, x.givenShare());
+        x.giveBack(0, 1);
+        is(1.0f / 2.0f, x.givenShare());
         x.cancel(0);
         is(1.0f, x.givenShare());
     }
