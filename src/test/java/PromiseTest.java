@@ -28,38 +28,15 @@ public final class PromiseTest {
 
     /** Throws, and changes nothing that can be seen, nor the acts that are remembered. */
     private static void failsFlat(LanesAndLots x, Class<? extends RuntimeException> want, Call call) {
-        String before = look(x);
+        String before = Look.at(x);
         fails(want, call);
-        is(before, look(x));
+        is(before, Look.at(x));
     }
 
     private static final Class<IllegalArgumentException> ARGUMENT = IllegalArgumentException.class;
     private static final Class<IllegalStateException> STATE = IllegalStateException.class;
     private static final Class<IndexOutOfBoundsException> INDEX = IndexOutOfBoundsException.class;
     private static final Class<NoSuchElementException> NONE_SUCH = NoSuchElementException.class;
-
-    /** All that the calls tell about an object. */
-    private static String look(LanesAndLots x) {
-        StringBuilder s = new StringBuilder();
-        s.append(x.today()).append(' ').append(x.checksum()).append(' ').append(x.actCount()).append(' ').append(x.errors());
-        s.append(' ').append(x.pickCount()).append(' ').append(x.pickLength(0)).append(' ').append(x.pickLength(1));
-        s.append(' ').append(x.meanLife()).append(' ').append(x.givenShare()).append(' ').append(x.boxBound(1)).append(' ').append(x.boxes(40));
-        for (int p = 0; p < x.placeCount(); p++) for (int w = 0; w < 4; w++) s.append(',').append(x.placeAt(p, w));
-        for (int l = 0; l < x.lotCount(); l++) {
-            s.append(';').append(x.customersOf(l));
-            for (int w = 0; w < 6; w++) s.append(',').append(x.lotAt(l, w));
-        }
-        for (int o = 0; o < x.orderCount(); o++) {
-            s.append(';').append(x.lotsOf(o));
-            for (int w = 0; w < 6; w++) s.append(',').append(x.orderAt(o, w));
-        }
-        for (int w = 0; w < 7; w++) s.append('/').append(x.book(w));
-        for (int n = 1; n <= 5; n++) {
-            s.append('|').append(x.lowBound(n)).append(',').append(x.highBound(n));
-            s.append(',').append(x.planCost(n, -20, false)).append(',').append(x.planCost(n, 0, true));
-        }
-        return s.toString();
-    }
 
     private static LanesAndLots house(int lanes, int positions, int room, int gap, int products) {
         LanesAndLots x = new LanesAndLots();
@@ -806,22 +783,18 @@ public final class PromiseTest {
 
     private interface Act { Object on(LanesAndLots x); }
 
-    private static String lookWithoutActs(LanesAndLots x) {
-        return look(x).replaceFirst("^(\\S+ \\S+) \\S+ ", "$1 ");
-    }
-
     private static void undoFrom(Act[] acts, int end) {
         LanesAndLots x = new LanesAndLots();
         String[] looks = new String[end];
         for (int k = 0; k < end; k++) {
-            looks[k] = lookWithoutActs(x);
+            looks[k] = Look.withoutActs(x);
             acts[k].on(x);
             is(Math.min(8, k + 1), x.actCount());
         }
         for (int left = Math.min(8, end) - 1, k = end - 1; left >= 0; left--, k--) {
             is(left, x.undo());
             is(left, x.actCount());
-            is(looks[k], lookWithoutActs(x));
+            is(looks[k], Look.withoutActs(x));
         }
         failsFlat(x, STATE, x::undo);
     }
@@ -829,12 +802,12 @@ public final class PromiseTest {
     private static void undoneAndDone(Act[] acts) {
         LanesAndLots x = new LanesAndLots();
         for (Act act : acts) {
-            String before = lookWithoutActs(x);
+            String before = Look.withoutActs(x);
             int count = Math.min(7, x.actCount());
             Object first = act.on(x);
             is(count + 1, x.actCount());
             is(count, x.undo());
-            is(before, lookWithoutActs(x));
+            is(before, Look.withoutActs(x));
             is(first, act.on(x));
         }
     }
