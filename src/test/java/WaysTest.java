@@ -67,6 +67,10 @@ public final class WaysTest {
         x.newHouse(3, 8, 1, 1);
         x.addProduct();
         check(x, 3, 8, 1, List.of(3, 4, 11, 12, 16, 23));
+        // Through four lanes, along the backs between them, and from there back to a front alone.
+        x.newHouse(6, 8, 1, 1);
+        x.addProduct();
+        check(x, 6, 8, 1, List.of(4, 10, 13, 23, 24, 31, 34, 37, 42, 45));
         System.out.println("ways: " + checks + " checks, " + wrong + " answers are not as due");
         if (wrong != 0) System.exit(1);
     }
